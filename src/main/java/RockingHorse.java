@@ -1720,7 +1720,10 @@ public final class RockingHorse {
                 int part = set & hours;
                 long low = best[set];
                 for (int own = part; own > 0; own = (own - 1) & part) {
-                    low = Math.min(low, best[set ^ own] + weight[own]);
+                    long v = best[set ^ own] + weight[own];
+                    if (v < low) {
+                        low = v;
+                    }
                 }
                 best[set] = low;
             }
@@ -1731,7 +1734,10 @@ public final class RockingHorse {
                 int part = set & hours;
                 long low = best[set];
                 for (int own = part; own > 0; own = (own - 1) & part) {
-                    low = Math.min(low, Math.max(best[set ^ own], weight[own]));
+                    long v = best[set ^ own] > weight[own] ? best[set ^ own] : weight[own];
+                    if (v < low) {
+                        low = v;
+                    }
                 }
                 best[set] = low;
             }
@@ -1760,11 +1766,12 @@ public final class RockingHorse {
 
         /** One rider more: in how many ways each set is held, from one place of a row to another. */
         private void addWays(int[] row, int from, int to, int rider) {
+            weigh(rider);
             for (int set = full; set >= 0; set--) {
                 int part = set & may[rider];
                 int together = row[from + set];
                 for (int own = part; own > 0; own = (own - 1) & part) {
-                    if (Integer.bitCount(own) <= most[rider]) {
+                    if (weight[own] < NO_ROTA) {
                         together += row[from + (set ^ own)];
                     }
                 }
@@ -1827,11 +1834,16 @@ public final class RockingHorse {
         private void findLacksIn(int hours) {
             int due = Integer.bitCount(hours);
             reach[0] = 0;
-            for (int who = 1; who < SETS; who++) {
-                int r = lowest(who);
+            for (int r = 0; r < MOST_RIDERS; r++) {
+                int own = 1 << r;
                 int rides = Math.min(most[r], Integer.bitCount(may[r] & hours));
-                reach[who] = reach[who & (who - 1)] + rides;
-                lack[who] = lack[who] || reach[who] < due;
+                for (int others = 0; others < own; others++) {
+                    int together = reach[others] + rides;
+                    reach[others + own] = together;
+                    if (together < due) {
+                        lack[others + own] = true;
+                    }
+                }
             }
         }
 
