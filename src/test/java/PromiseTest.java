@@ -783,6 +783,12 @@ public final class PromiseTest {
         x.set(0, 8);
         due(34, "of 8 hours", x.thin(), 4);
         dueRow(34, "of 8 hours", 0);
+        anew(8, "11abcdefgh;11abcdefgh;11abcdefgh;11abcdefgh");
+        riders("11abcdefgh;11abcdefgh;11abcdefgh;11abcdefgh");
+        due(34, "all can all", x.thin(), 0);
+        dueRow(34, "all can all", 8);
+        due(31, "all can all", x.able(3), 8);
+        dueRow(31, "all can all", 0, 1, 2, 3, 4, 5, 6, 7);
     }
 
     private static void handOns() {
