@@ -1245,7 +1245,11 @@ public final class RockingHorse {
         private void readFirst() {
             begin();
             for (int p = 0; p < AT_FIRST.length(); p++) {
-                takeSign(AT_FIRST.charAt(p));
+                if (thingDue) {
+                    takeThing(AT_FIRST.charAt(p));
+                } else {
+                    takeBehindThing(AT_FIRST.charAt(p));
+                }
             }
             reckonDownTo(1);
         }
@@ -1259,7 +1263,9 @@ public final class RockingHorse {
             begin();
             int stop = Math.min(text.length, SIGNS);
             for (int p = 0; p < stop; p++) {
-                if (!takeSign(text.at(p))) {
+                int sign = text.at(p);
+                boolean stands = thingDue ? takeThing(sign) : takeBehindThing(sign);
+                if (!stands) {
                     return p;
                 }
             }
@@ -1268,10 +1274,6 @@ public final class RockingHorse {
             }
             reckonDownTo(1);
             return NONE;
-        }
-
-        private boolean takeSign(int sign) {
-            return thingDue ? takeThing(sign) : takeBehindThing(sign);
         }
 
         private boolean takeThing(int sign) {
