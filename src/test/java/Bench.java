@@ -321,9 +321,12 @@ final class Bench {
 
     // ---- the end
 
-    /** Tells how it went, each promise from one to another having a case; ends with 1 if one was not as due. */
-    void end(int from, int to) throws IOException {
-        endSentence();
+    /** Each sentence that is quoted stands in the document, where that can be read. */
+    private void lookUpSentences() throws IOException {
+        if (!Files.isReadable(DOCUMENT)) {
+            System.out.println(DOCUMENT + " can't be read: the sentences were not looked up");
+            return;
+        }
         String document = Files.readString(DOCUMENT).replaceAll("\\s+", " ");
         for (String s : sentences) {
             if (!document.contains(s)) {
@@ -331,6 +334,12 @@ final class Bench {
                 System.out.println("not in the document: \"" + s + "\"");
             }
         }
+    }
+
+    /** Tells how it went, each promise from one to another having a case; ends with 1 if one was not as due. */
+    void end(int from, int to) throws IOException {
+        endSentence();
+        lookUpSentences();
         for (int p = from; p <= to; p++) {
             if (!promises.contains(p)) {
                 wrong++;
