@@ -37,6 +37,7 @@ public final class TermsBoundaryTest {
         questionsChangeNothing();
         heldRotas();
         refusedTexts();
+        callsAtMost();
         b.end(0, 0);
     }
 
@@ -714,5 +715,24 @@ public final class TermsBoundaryTest {
             b.due("it is refused", reads[i].on(b.x) < 0, true);
             b.due("signs of THE TEXT", b.x.count(11), 0);
         }
+    }
+
+    private static void callsAtMost() {
+        b.says(0, "An object is used for at most 512 calls after it has been made; what later calls answer is free.");
+        b.x = new RockingHorse();
+        for (int call = 1; call <= 510; call++) {
+            b.due("call " + call, b.x.nights(30), 240);
+        }
+        b.due("the 511th call", b.x.count(4), 15300);
+        b.due("the 512th call", b.x.count(5), 122400);
+        b.x = new RockingHorse();
+        for (int call = 1; call <= 508; call += 2) {
+            b.due("call " + call, b.x.sign(0x2D2D2D2D), 4);
+            b.due("call " + (call + 1), b.x.rota(), -5);
+        }
+        b.x.sign(0x2D2D2D2D);
+        b.x.sign(0x2D2D2D2D);
+        b.due("the 511th call", b.x.rota(), 0);
+        b.due("the 512th call", b.x.count(9), 1);
     }
 }
