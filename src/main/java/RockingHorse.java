@@ -565,9 +565,9 @@ public final class RockingHorse {
             return NOTHING;
         }
         seats.tallyAll();
-        int fewest = Integer.MAX_VALUE;
+        int fewest = seats.mostIn(0);
         int which = 0;
-        for (int h = 0; h < house.hours; h++) {
+        for (int h = 1; h < house.hours; h++) {
             int left = seats.mostIn(h);
             if (left < fewest) {
                 fewest = left;
@@ -600,7 +600,8 @@ public final class RockingHorse {
         }
         openSeats(NONE);
         seats.findLacks();
-        long least = Long.MAX_VALUE;
+        // With one rider fewer no chance has an upper number as great as this.
+        long least = power(TENTHS, Integer.bitCount(well));
         int which = 0;
         for (int r = 0; r < house.crew; r++) {
             if ((well >> r & 1) == 1) {

@@ -23,7 +23,7 @@ public final class FaceTest {
         + " int years(int,int) boolean keep(int) boolean again(int) int count(int) long row(int)";
     private static final String[] FORBIDDEN = {"\\btry\\b", "\\bcatch\\b", "\\bfinally\\b", "->", "::", "\\bassert\\b",
         "\\bsynchronized\\b", "\\bvar\\b", "\\bprotected\\b", "\\bnative\\b", "Exact\\b", "\\bstatic \\{",
-        "\\bHashMap\\b", "\\bRandom\\b", "\\bSystem\\.(?!arraycopy)", "[^\\x00-\\x7f]"};
+        "_VALUE\\b", "\\bHashMap\\b", "\\bRandom\\b", "\\bSystem\\.(?!arraycopy)", "[^\\x00-\\x7f]"};
     private static int wrong = 0;
 
     private static void due(boolean is, String what) {
